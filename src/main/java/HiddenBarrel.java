@@ -1413,7 +1413,9 @@ public final class HiddenBarrel {
             for (int set = 0; set <= goal && set < SETS; set++) {
                 if ((set & ~goal) == 0) {
                     for (int from = 0; from < places; from++) {
-                        cost[from * SETS + set] = set == 0 ? 0 : leastFrom(ways, places, from, set);
+                        if (from == 0 || isIn(goal & ~set, from)) {
+                            cost[from * SETS + set] = set == 0 ? 0 : leastFrom(ways, places, from, set);
+                        }
                     }
                 }
             }
@@ -1471,6 +1473,8 @@ public final class HiddenBarrel {
         private int settledCells;
         private final int[] cellPick;
         private final int[] rowPick;
+        /** Of n rows, how many choices of 0 .. 3 there are. */
+        private final int[] choices;
         private final long[] ones;
         private final long[] square;
         private final long[] cellShare;
@@ -1480,6 +1484,8 @@ public final class HiddenBarrel {
         private int size;
         private long above;
         private long below;
+        private long heldAbove;
+        private long heldBelow;
 
         private Game() {
             cellar = new int[MOST_HIDING];
@@ -1487,6 +1493,13 @@ public final class HiddenBarrel {
             settled = new int[MOST_HIDING * MOST_ROWS];
             cellPick = new int[MOST_HIDING];
             rowPick = new int[MOST_HIDING];
+            choices = new int[MOST_HIDING * MOST_ROWS];
+            for (int n = 0; n < MOST_ROWS; n++) {
+                choices[n] = 1;
+                choices[MOST_ROWS + n] = n;
+                choices[2 * MOST_ROWS + n] = n * (n - 1) / 2;
+                choices[3 * MOST_ROWS + n] = n * (n - 1) * (n - 2) / 6;
+            }
             ones = new long[ROW_TRIPLES];
             square = new long[9];
             cellShare = new long[MOST_HIDING];
@@ -1587,6 +1600,7 @@ public final class HiddenBarrel {
 
         private void search() {
             size = 0;
+            heldBelow = 0;
             for (int k = 1; k <= cells; k++) {
                 pickFirst(cellPick, k);
                 boolean any = true;
@@ -1605,7 +1619,7 @@ public final class HiddenBarrel {
             pickFirst(rowPick, k);
             boolean any = k <= rows;
             for (int i = 0; i < MOST_STEPS && any; i++) {
-                if (weighRows(k) && weighCells(k) && stands(k)) {
+                if (weighRows(k) && isLeastYet(k) && weighCells(k) && noRowIsLess(k)) {
                     return true;
                 }
                 any = pickNext(rowPick, k, rows);
@@ -1628,7 +1642,7 @@ public final class HiddenBarrel {
                     }
                 }
                 long sum = determinant(square, k - 1);
-                ones[rankWithout(k - 1, k)] = (k & 1) == 1 ? sum : -sum;
+                ones[rankOf(k - 1)] = (k & 1) == 1 ? sum : -sum;
                 any = pickNext(rowPick, k - 1, rows);
             }
         }
@@ -1637,36 +1651,26 @@ public final class HiddenBarrel {
             return found[cellPick[line] * MOST_ROWS + rowPick[column]];
         }
 
-        /** The place in ones of the first k picked rows without one of them (all, if it is k). */
-        private int rankWithout(int k, int without) {
+        /** The place in ones of the first k picked rows: no two choices of k have the same. */
+        private int rankOf(int k) {
             int rank = 0;
-            int taken = 0;
             for (int i = 0; i < k; i++) {
-                if (i != without) {
-                    int n = rowPick[i];
-                    taken++;
-                    if (taken == 1) {
-                        rank = n;
-                    } else if (taken == 2) {
-                        rank += n * (n - 1) / 2;
-                    } else {
-                        rank += n * (n - 1) * (n - 2) / 6;
-                    }
-                }
+                rank += choices[(i + 1) * MOST_ROWS + rowPick[i]];
             }
-            return rank < ROW_TRIPLES ? rank : 0;
+            return rank;
         }
 
-        /** The rows' chances; false if there are none, or one is below 0. */
+        /**
+         * The rows' chances; false if there are none, or one is below 0. The rank of the kernel's
+         * rows without one of them is had from that without the one behind it.
+         */
         private boolean weighRows(int k) {
             long sum = 0;
             boolean more = false;
             boolean less = false;
-            for (int i = 0; i < k; i++) {
-                long part = ones[rankWithout(k, i)];
-                if ((k - 1 - i & 1) == 1) {
-                    part = -part;
-                }
+            int rank = rankOf(k - 1);
+            for (int i = k - 1; i >= 0; i--) {
+                long part = (k - 1 - i & 1) == 1 ? -ones[rank] : ones[rank];
                 more |= part > 0;
                 less |= part < 0;
                 if (more && less) {
@@ -1674,6 +1678,9 @@ public final class HiddenBarrel {
                 }
                 rowShare[i] = Math.abs(part);
                 sum += rowShare[i];
+                if (i > 0) {
+                    rank += choices[i * MOST_ROWS + rowPick[i]] - choices[i * MOST_ROWS + rowPick[i - 1]];
+                }
             }
             turned = less;
             below = sum;
@@ -1695,7 +1702,6 @@ public final class HiddenBarrel {
                     return false;
                 }
             }
-            above = worthOfCell(cellPick[0], k);
             return true;
         }
 
@@ -1715,12 +1721,27 @@ public final class HiddenBarrel {
             return sum;
         }
 
-        private boolean stands(int k) {
+        /**
+         * Whether no cellar is worth more than the kernel against its rows' chances. As other rows
+         * that hold him who hides to less would show that it can't be a kernel, the least such
+         * worth is kept, and the cellars' chances of most kernels need not be worked out.
+         */
+        private boolean isLeastYet(int k) {
+            above = worthOfCell(cellPick[0], k);
             for (int cell = 0; cell < cells; cell++) {
                 if (worthOfCell(cell, k) > above) {
                     return false;
                 }
             }
+            if (heldBelow > 0 && isLess(heldAbove, heldBelow, above, below)) {
+                return false;
+            }
+            heldAbove = above;
+            heldBelow = below;
+            return true;
+        }
+
+        private boolean noRowIsLess(int k) {
             for (int row = 0; row < rows; row++) {
                 if (worthOfRow(row, k) < above) {
                     return false;
