@@ -571,16 +571,21 @@ public final class HiddenBarrel {
         if (k < 0 || k >= MOST_IMAGES) {
             return false;
         }
-        images[k].copyFrom(world);
+        World image = images[k];
+        if (image == null) {
+            return false;
+        }
+        image.copyFrom(world);
         kept[k] = true;
         return true;
     }
 
     public boolean again(int k) {
-        if (k < 0 || k >= MOST_IMAGES || !kept[k]) {
+        World image = k >= 0 && k < MOST_IMAGES && kept[k] ? images[k] : null;
+        if (image == null) {
             return false;
         }
-        world.copyFrom(images[k]);
+        world.copyFrom(image);
         return true;
     }
 
@@ -682,7 +687,11 @@ public final class HiddenBarrel {
         private void copyFrom(World other) {
             System.arraycopy(other.tape, 0, tape, 0, MOST_BYTES);
             for (int i = 0; i < MOST_TOWNS; i++) {
-                towns[i].copyFrom(other.towns[i]);
+                Town mine = towns[i];
+                Town theirs = other.towns[i];
+                if (mine != null && theirs != null) {
+                    mine.copyFrom(theirs);
+                }
             }
             length = other.length;
             fault = other.fault;
@@ -765,8 +774,6 @@ public final class HiddenBarrel {
         private void begin(int placesTold) {
             places = placesTold;
             lanes = 0;
-            all = 0;
-            cellars = 0;
             prize = 0;
             move = 0;
             walks = 0;
@@ -1473,7 +1480,7 @@ public final class HiddenBarrel {
         private int settledCells;
         private final int[] cellPick;
         private final int[] rowPick;
-        /** Of n rows, how many choices of 0 .. 3 there are. */
+        /** Of n rows, how many choices of 1 .. 3 there are. */
         private final int[] choices;
         private final long[] ones;
         private final long[] square;
@@ -1495,7 +1502,6 @@ public final class HiddenBarrel {
             rowPick = new int[MOST_HIDING];
             choices = new int[MOST_HIDING * MOST_ROWS];
             for (int n = 0; n < MOST_ROWS; n++) {
-                choices[n] = 1;
                 choices[MOST_ROWS + n] = n;
                 choices[2 * MOST_ROWS + n] = n * (n - 1) / 2;
                 choices[3 * MOST_ROWS + n] = n * (n - 1) * (n - 2) / 6;
@@ -1603,28 +1609,21 @@ public final class HiddenBarrel {
             heldBelow = 0;
             for (int k = 1; k <= cells; k++) {
                 pickFirst(cellPick, k);
-                boolean any = true;
-                for (int i = 0; i < MOST_STEPS && any; i++) {
-                    if (findRows(k)) {
-                        size = k;
-                        return;
+                boolean anyCells = true;
+                for (int i = 0; i < MOST_STEPS && anyCells; i++) {
+                    fillOnes(k);
+                    pickFirst(rowPick, k);
+                    boolean anyRows = true;
+                    for (int j = 0; j < MOST_STEPS && anyRows; j++) {
+                        if (weighRows(k) && isLeastYet(k) && weighCells(k) && noRowIsLess(k)) {
+                            size = k;
+                            return;
+                        }
+                        anyRows = pickNext(rowPick, k, rows);
                     }
-                    any = pickNext(cellPick, k, cells);
+                    anyCells = pickNext(cellPick, k, cells);
                 }
             }
-        }
-
-        private boolean findRows(int k) {
-            fillOnes(k);
-            pickFirst(rowPick, k);
-            boolean any = k <= rows;
-            for (int i = 0; i < MOST_STEPS && any; i++) {
-                if (weighRows(k) && isLeastYet(k) && weighCells(k) && noRowIsLess(k)) {
-                    return true;
-                }
-                any = pickNext(rowPick, k, rows);
-            }
-            return false;
         }
 
         /**
@@ -1791,27 +1790,22 @@ public final class HiddenBarrel {
         }
 
         private boolean addLane(Town t, int minutesTold, Game game, Game trial) {
+            if (!game.settle(t.ways, t.cellarsAway())) {
+                return false;
+            }
             if (t.mark != mark || minutes != minutesTold) {
                 mark = t.mark;
                 minutes = minutesTold;
-                search(t, game, trial);
-            }
-            return first != NONE;
-        }
-
-        private void search(Town t, Game game, Game trial) {
-            first = NONE;
-            second = NONE;
-            if (!game.settle(t.ways, t.cellarsAway())) {
-                return;
-            }
-            for (int a = 0; a < t.places; a++) {
-                for (int b = a + 1; b < t.places; b++) {
-                    if (!t.hasLane(a, b)) {
-                        weighLane(t, a, b, game, trial);
+                first = NONE;
+                for (int a = 0; a < t.places; a++) {
+                    for (int b = a + 1; b < t.places; b++) {
+                        if (!t.hasLane(a, b)) {
+                            weighLane(t, a, b, game, trial);
+                        }
                     }
                 }
             }
+            return first != NONE;
         }
 
         /** Most lanes leave the ways between cellars as they are: then nothing is worked out anew. */

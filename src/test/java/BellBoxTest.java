@@ -30,6 +30,8 @@ public final class BellBoxTest {
         at(x, 17, 36, 9, 8, 3);
         at(x, 18, 60, 18, 12, 2, 3);
         at(x, 999, 60, 18, 12, 2, 3);
+        at(x, 0, 0, 0, 0);
+        at(x, 8, 24, 8, 4, 2);
         Check.due("1000 minutes", x.bell(0, 1000, 0), -1);
         Check.due("-1 minutes", x.bell(0, -1, 0), -1);
         Check.due("MIN minutes", x.bell(0, Integer.MIN_VALUE, 1), -1);
@@ -106,6 +108,8 @@ public final class BellBoxTest {
                 + "chance 7 9;chance 6 8;chance 0 1;");
         Check.due("9 and 8", y.box(0, 12), 64);
         Check.due("17 * 12", y.right(0, 12, 64), 204);
+        HiddenBarrel two = Check.with("places 2;lane 0 1 1;chance 0 4;chance 1 4;");
+        Check.due("place 0 alone is named", two.box(0, 12), 1);
         HiddenBarrel one = Check.with("places 2;lane 0 1 1;chance 1 9;");
         Check.due("one cellar", one.box(0, 12), 0);
     }

@@ -15,6 +15,7 @@ public final class ChancesTest {
         guard();
         open();
         again();
+        near();
         Check.close("ChancesTest");
     }
 
@@ -189,6 +190,29 @@ public final class ChancesTest {
         HiddenBarrel row = Check.with("places 3;lane 0 1 5;lane 1 2 6;chance 1 1;chance 2 1;");
         Check.due("row from", row.open(0, 3, 0), 0);
         Check.due("row to", row.open(0, 3, 1), 2);
+    }
+
+    /** Short lanes, where worths lie close together: by which cellar or lane it is least is held against Slow. */
+    private static void near() {
+        Towns drawn = new Towns(3);
+        for (int i = 0; i < 150; i++) {
+            Slow t = drawn.town(4, 7, 3);
+            for (int a = 0; a < t.places; a++) {
+                for (int b = 0; b < t.places; b++) {
+                    t.lane[a][b] = t.lane[b][a] = t.lane[a][b] > 0 ? 1 + (a * b + a + b) % 4 : 0;
+                }
+            }
+            HiddenBarrel x = Check.with(t.text());
+            long[] guard = t.guard();
+            for (int what = 0; what < 3 && guard != null; what++) {
+                Check.due("near guard " + what + " in " + t.text(), x.guard(0, what), guard[what]);
+            }
+            int minutes = 1 + i % 4;
+            long[] open = t.open(minutes);
+            for (int what = 0; what < 4 && open != null; what++) {
+                Check.due("near open " + minutes + " " + what + " in " + t.text(), x.open(0, minutes, what), open[what]);
+            }
+        }
     }
 
     /** What was worked out for one town, or before, is not told of another. */

@@ -10,6 +10,8 @@ public final class ImagesTest {
     public static void main(String[] args) {
         numbers();
         all();
+        walks();
+        searches();
         tape();
         others();
         free();
@@ -89,6 +91,52 @@ public final class ImagesTest {
         Check.due("again 1 as it was", x.again(1), true);
         same("again 1 as it was", told(x), first);
         Check.due("a third town", Check.town(x, OTHER), 2);
+    }
+
+    /** The stops of a walk that is gone, told anew, and told again. */
+    private static void walks() {
+        HiddenBarrel x = full();
+        x.image(0);
+        Check.townAt(x, 0, TOWN);
+        x.walk(0);
+        x.stop(0, 0, 1);
+        x.stop(0, 0, 0);
+        x.stop(0, 0, 3);
+        x.weigh(0, 0, 5);
+        x.diary(0, 0);
+        x.image(1);
+        x.again(0);
+        Check.due("found by the old walk at 3", x.found(0, 0, 3), 8);
+        Check.due("found by the old walk at 2", x.found(0, 0, 2), 17);
+        Check.due("found by the old walk at 1", x.found(0, 0, 1), -1);
+        Check.due("where by the old weights", x.where(0, 1), 8 + 7 * 999);
+        Check.due("likely by the old day", x.likely(0, 2, 0), 7);
+        Check.due("likely by the old day, below", x.likely(0, 2, 1), 25);
+        x.again(1);
+        Check.due("found by the new walk at 3", x.found(0, 0, 3), 14);
+        Check.due("found by the new walk at 2", x.found(0, 0, 2), -1);
+        Check.due("likely by the new day", x.likely(0, 2, 0), 2);
+    }
+
+    private static void searches() {
+        HiddenBarrel x = Check.with("places 3;lane 0 1 1;lane 0 2 1;chance 1 1;chance 2 1;dog 1 1;dog 2 3;dig 1 5;");
+        int[][] ran = new int[3][4];
+        for (int seed = 0; seed < 40; seed++) {
+            x.run(0, 16, seed);
+            int k = x.ran(1) == 0 ? 0 : x.ran(3) == 0 ? 1 : 2;
+            for (int what = 0; what < 4; what++) {
+                ran[k][what] = x.ran(what);
+            }
+            x.image(k);
+        }
+        for (int k = 0; k < 3; k++) {
+            Check.due("image of a search", x.again(k), true);
+            for (int what = 0; what < 4; what++) {
+                Check.due("ran " + what + " of image " + k, x.ran(what), ran[k][what]);
+            }
+        }
+        Check.due("looks that found nothing", ran[0][3] == 8, true);
+        Check.due("another look", ran[1][1] != ran[2][1], true);
     }
 
     private static void tape() {

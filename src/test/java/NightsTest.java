@@ -173,6 +173,10 @@ public final class NightsTest {
         Check.due("it is at 1", no.next(0), 1);
         no.diary(0, 1);
         Check.due("nowhere", no.next(0), -1);
+        HiddenBarrel faint = Check.with("places 2;lane 0 1 2;chance 1 1;dog 1 1;");
+        Check.due("the least that can be", faint.next(0), 1);
+        HiddenBarrel same = Check.with("places 3;lane 0 1 2;lane 0 2 2;chance 1 2;chance 2 1;dog 1 6;");
+        Check.due("of several the least", same.next(0), 1);
         HiddenBarrel near = Check.with("places 3;lane 0 1 2;lane 1 2 2;chance 0 5;chance 1 4;chance 2 4;move 6;dog 0 6;");
         near.diary(0, 0);
         Check.due("no night behind the last day", near.next(0), 1);

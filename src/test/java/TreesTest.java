@@ -109,7 +109,13 @@ public final class TreesTest {
         Check.due("3's fellow", chord.postman(0, 13), 1);
         HiddenBarrel star = Check.with("places 8;lane 0 1 1;lane 0 2 2;lane 0 3 3;lane 0 4 4;lane 0 5 5;lane 0 6 6;"
                 + "lane 0 7 7;chance 1 1;");
+        Check.due("a fellow, asked first", star.postman(0, 17), 6);
         Check.due("each lane twice", star.postman(0, 0), 56);
+        Check.due("postman 18 of eight places", star.postman(0, 18), -1);
+        Check.town(star, TOWN);
+        Check.due("another town's fellow, asked first", star.postman(1, 11), 0);
+        Check.due("a fellow of the first town again", star.postman(0, 11), 0);
+        Check.due("a fellow of the first town again", star.postman(0, 14), 5);
         int[] fellow = {1, 0, 3, 2, 5, 4, 7, 6};
         for (int a = 0; a < 8; a++) {
             Check.due("the least row, " + a, star.postman(0, 10 + a), fellow[a]);
