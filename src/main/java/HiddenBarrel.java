@@ -57,6 +57,14 @@ public final class HiddenBarrel {
     private static final int WORD_MOVE = 9;
     private static final int UNKNOWN = 10;
 
+    private static final char[] PLACES = {'p', 'l', 'a', 'c', 'e', 's'};
+    private static final char[] LANE = {'l', 'a', 'n', 'e'};
+    private static final char[] CHANCE = {'c', 'h', 'a', 'n', 'c', 'e'};
+    private static final char[] DOG = {'d', 'o', 'g'};
+    private static final char[] DIG = {'d', 'i', 'g'};
+    private static final char[] PRIZE = {'p', 'r', 'i', 'z', 'e'};
+    private static final char[] MOVE = {'m', 'o', 'v', 'e'};
+
     private final World world;
     private final World[] images;
     private final boolean[] kept;
@@ -1103,33 +1111,33 @@ public final class HiddenBarrel {
             if (tape[from] == ';') {
                 return SEMICOLON;
             }
-            if (says(tape, from, to, "places")) {
+            if (says(tape, from, to, PLACES)) {
                 return WORD_PLACES;
             }
-            if (says(tape, from, to, "lane")) {
+            if (says(tape, from, to, LANE)) {
                 return WORD_LANE;
             }
-            if (says(tape, from, to, "chance")) {
+            if (says(tape, from, to, CHANCE)) {
                 return WORD_CHANCE;
             }
-            if (says(tape, from, to, "dog")) {
+            if (says(tape, from, to, DOG)) {
                 return WORD_DOG;
             }
-            if (says(tape, from, to, "dig")) {
+            if (says(tape, from, to, DIG)) {
                 return WORD_DIG;
             }
-            if (says(tape, from, to, "prize")) {
+            if (says(tape, from, to, PRIZE)) {
                 return WORD_PRIZE;
             }
-            return says(tape, from, to, "move") ? WORD_MOVE : UNKNOWN;
+            return says(tape, from, to, MOVE) ? WORD_MOVE : UNKNOWN;
         }
 
-        private static boolean says(byte[] tape, int from, int to, String word) {
-            if (to - from != word.length()) {
+        private static boolean says(byte[] tape, int from, int to, char[] word) {
+            if (to - from != word.length) {
                 return false;
             }
-            for (int i = 0; i < word.length(); i++) {
-                if (tape[from + i] != word.charAt(i)) {
+            for (int i = 0; i < word.length; i++) {
+                if (tape[from + i] != word[i]) {
                     return false;
                 }
             }
