@@ -196,19 +196,25 @@ public final class ChancesTest {
     private static void near() {
         Towns drawn = new Towns(3);
         for (int i = 0; i < 150; i++) {
-            Slow t = drawn.town(4, 7, 3);
+            Slow t = drawn.town(4, 6, 3 + i % 2);
             for (int a = 0; a < t.places; a++) {
-                for (int b = 0; b < t.places; b++) {
-                    t.lane[a][b] = t.lane[b][a] = t.lane[a][b] > 0 ? 1 + (a * b + a + b) % 4 : 0;
+                for (int b = 0; b < a; b++) {
+                    t.lane[a][b] = t.lane[b][a] = t.lane[a][b] > 0 ? 1 + drawn.below(2) : 0;
                 }
             }
             HiddenBarrel x = Check.with(t.text());
+            Slow.Kernel kernel = t.kernel(t.ways(), t.cellarsAway());
+            if (kernel != null) {
+                Check.due("near D in " + t.text(), x.both(0, 0), kernel.d);
+                Check.due("near S in " + t.text(), x.both(0, 1), kernel.s);
+                Check.due("near row in " + t.text(), x.goes(0, 0, 0), kernel.rows.get(0));
+            }
             long[] guard = t.guard();
             for (int what = 0; what < 3 && guard != null; what++) {
                 Check.due("near guard " + what + " in " + t.text(), x.guard(0, what), guard[what]);
             }
-            int minutes = 1 + i % 4;
-            long[] open = t.open(minutes);
+            int minutes = 1 + i % 3;
+            long[] open = i % 2 == 0 ? t.open(minutes) : null;
             for (int what = 0; what < 4 && open != null; what++) {
                 Check.due("near open " + minutes + " " + what + " in " + t.text(), x.open(0, minutes, what), open[what]);
             }

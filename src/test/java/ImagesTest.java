@@ -11,6 +11,7 @@ public final class ImagesTest {
         numbers();
         all();
         walks();
+        allStops();
         searches();
         tape();
         others();
@@ -116,6 +117,33 @@ public final class ImagesTest {
         Check.due("found by the new walk at 3", x.found(0, 0, 3), 14);
         Check.due("found by the new walk at 2", x.found(0, 0, 2), -1);
         Check.due("likely by the new day", x.likely(0, 2, 0), 2);
+    }
+
+    private static void allStops() {
+        HiddenBarrel x = Check.with(TOWN);
+        for (int w = 0; w < 8; w++) {
+            x.walk(0);
+            x.weigh(0, w, 0);
+            for (int k = 0; k < 16; k++) {
+                x.stop(0, w, k < 15 - w ? 0 : 2 + w % 2);
+            }
+        }
+        x.weigh(0, 7, 1);
+        x.image(2);
+        Check.townAt(x, 0, TOWN);
+        for (int w = 0; w < 8; w++) {
+            x.walk(0);
+            for (int k = 0; k < 16; k++) {
+                x.stop(0, w, 1);
+            }
+        }
+        x.again(2);
+        for (int w = 0; w < 8; w++) {
+            Check.due("old walk " + w, x.found(0, w, 2 + w % 2), w % 2 == 0 ? 7 : 8);
+            Check.due("old walk " + w + " at 1", x.found(0, w, 1), -1);
+            Check.due("old walk " + w + " is full", x.stop(0, w, 1), -1);
+        }
+        Check.due("old weights", x.where(0, 1), 999);
     }
 
     private static void searches() {
