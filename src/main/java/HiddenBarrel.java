@@ -1678,8 +1678,8 @@ public final class HiddenBarrel {
             int rank = rankOf(k - 1);
             for (int i = k - 1; i >= 0; i--) {
                 long part = (k - 1 - i & 1) == 1 ? -ones[rank] : ones[rank];
-                more |= part > 0;
-                less |= part < 0;
+                more = more || part > 0;
+                less = less || part < 0;
                 if (more && less) {
                     return false;
                 }
