@@ -37,6 +37,7 @@ public final class HiddenBarrel {
 
     /** Longer than any way can be: a place that no lane leads to. */
     private static final int FAR = 1000000;
+    private static final int GREATEST = 2147483647;
     /** An end for loops whose own end lies in what they step through. */
     private static final int MOST_STEPS = 1000000;
 
@@ -1437,7 +1438,7 @@ public final class HiddenBarrel {
         }
 
         private int leastFrom(int[] ways, int places, int from, int set) {
-            int found = Integer.MAX_VALUE;
+            int found = GREATEST;
             for (int to = 0; to < places; to++) {
                 if (isIn(set, to)) {
                     found = Math.min(found, costBy(ways, from, to, set));
@@ -2189,7 +2190,7 @@ public final class HiddenBarrel {
         /** The least fellow of the set's least place with which the whole set costs least. */
         private int fellowIn(Town t, int set) {
             int best = 0;
-            int fewest = Integer.MAX_VALUE;
+            int fewest = GREATEST;
             for (int b = leastOf(set) + 1; b < t.places; b++) {
                 if (isIn(set, b) && costBy(t, set, b) < fewest) {
                     fewest = costBy(t, set, b);
