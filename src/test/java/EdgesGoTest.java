@@ -257,7 +257,11 @@ public final class EdgesGoTest {
         String[] texts = {star(8, 5, 1, 0), star(8, 5, 2, 1), star(8, 5, 3, 0), star(8, 5, 4, 0)};
         for (String text : texts) {
             int size = (int) Check.with(text).both(0, 2);
-            Check.due("as many as cellars", size, Check.with(text).about(0, 2) - Check.with(text).about(0, 10));
+            int cellars = Check.with(text).about(0, 2) - Check.with(text).about(0, 10);
+            Check.due("as many as cellars", size, cellars);
+            if (size != cellars) {
+                continue;
+            }
             for (int what = 0; what < 2; what++) {
                 int w = what;
                 Edges.refused("goes " + what, text, Check.UNTOLD, (x, k) -> x.goes(0, k, w), Edges.outside(0, size - 1));

@@ -23,6 +23,7 @@ public final class EdgesKeepTest {
         imageNumbers();
         imageEmpty();
         imageFull();
+        imageLast();
         imageTape();
         imageFault();
         imageSearch();
@@ -261,6 +262,43 @@ public final class EdgesKeepTest {
         Check.due("no fourth town", Check.town(x, FAINT), -2);
     }
 
+    /** What is changed behind an image in the same town: each walk's stops and weight, each day. */
+    private static void imageLast() {
+        for (int w = 0; w < 8; w++) {
+            HiddenBarrel x = Check.with("places 3;lane 0 1 1;lane 0 2 1;chance 0 1;chance 1 8;chance 2 9;dog 1 3;dog 2 5;");
+            for (int i = 0; i < 8; i++) {
+                x.walk(0);
+                x.stop(0, i, 1);
+                x.weigh(0, i, 0);
+            }
+            x.weigh(0, w, 5);
+            for (int d = 0; d < 7; d++) {
+                x.diary(0, d == w ? 2 : 0);
+            }
+            x.image(0);
+            Check.due("weighed", x.where(0, 1), 5 * 999);
+            long above = x.likely(0, 1, 0);
+            long below = x.likely(0, 1, 1);
+            x.weigh(0, w, 7);
+            x.stop(0, w, 2);
+            x.forget(0);
+            for (int d = 0; d < 7; d++) {
+                x.diary(0, d == w ? 1 : 0);
+            }
+            x.image(1);
+            x.again(0);
+            Check.due("weighed as before", x.where(0, 1), 5 * 999);
+            Check.due("not at 2, as before", x.found(0, w, 2), -1);
+            Check.due("a second stop", x.stop(0, w, 1), 2);
+            Check.due("likely as before", x.likely(0, 1, 0), above);
+            Check.due("likely as before, below", x.likely(0, 1, 1), below);
+            x.again(1);
+            Check.due("weighed as then", x.where(0, 1), 7 * 3);
+            Check.due("at 2 as then", x.found(0, w, 2), 3);
+            Check.due("likely as then", x.likely(0, 1, 0) != above || x.likely(0, 1, 1) != below, w < 7);
+        }
+    }
+
     /** The tape, too: empty, of one byte, full. */
     private static void imageTape() {
         int[] lengths = {0, 1, 20, 480, 481, 500};
@@ -277,6 +315,20 @@ public final class EdgesKeepTest {
             Check.due("so many", x.end(length), length);
             x.town(-1);
             Check.due("blanks alone", x.fault(1), length);
+        }
+        tapeBytes();
+    }
+
+    /** Each byte of a full tape. */
+    private static void tapeBytes() {
+        for (int place = 0; place < 500; place++) {
+            HiddenBarrel x = new HiddenBarrel();
+            Check.put(x, " ".repeat(place) + "%" + " ".repeat(499 - place));
+            x.image(2);
+            Check.put(x, " ".repeat(500));
+            x.again(2);
+            x.town(-1);
+            Check.due("byte " + place + " as image 2 has it", x.fault(1), place);
         }
     }
 

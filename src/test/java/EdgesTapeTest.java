@@ -332,10 +332,29 @@ public final class EdgesTapeTest {
         Check.fault("pl aces 2;", 1, 0);
         Check.fault("place 2;", 1, 0);
         Check.fault("placess 2;", 1, 0);
+        otherWords();
         String[] words = {"lan", "lanes", "chanc", "chances", "do", "dogs", "di", "digs", "priz", "prizes", "mov", "moves",
             "places", "z", "a", "Lane", "lanE"};
         for (String word : words) {
             Check.fault("places 2;lane 0 1 5;" + word + " 1 1;", 1, 20);
+        }
+    }
+
+    /** Each word with one of its letters another one. */
+    private static void otherWords() {
+        String[] words = {"places", "lane", "chance", "dog", "dig", "prize", "move"};
+        for (String word : words) {
+            String head = word.equals("places") ? "" : "places 2;lane 0 1 5;";
+            String tail = word.equals("places") ? " 2;lane 0 1 5;chance 1 1;" : word.equals("lane") ? " 0 1 5;" : word.equals("prize")
+                    || word.equals("move") ? " 1;" : " 1 1;";
+            for (int i = 0; i < word.length(); i++) {
+                for (char c = 'a'; c <= 'z'; c++) {
+                    String other = word.substring(0, i) + c + word.substring(i + 1);
+                    if (!other.equals(word) && !other.equals("dig") && !other.equals("dog")) {
+                        Check.fault(head + other + tail, 1, head.length());
+                    }
+                }
+            }
         }
     }
 

@@ -33,6 +33,10 @@ public final class LanguageTest {
         "static \\{", "equals\\(Object", "hashCode", "instanceof", "volatile", "native", "transient",
     };
 
+    /** What rule 4 leaves of the library and the class uses. */
+    private static final Set<String> LIBRARY = Set.of("Arrays.fill", "System.arraycopy", "Integer.bitCount", "Math.abs", "Math.max",
+            "Math.min");
+
     private LanguageTest() {
     }
 
@@ -111,6 +115,15 @@ public final class LanguageTest {
                 sought = "Exact\\(";
             }
             Check.due("no " + word, Pattern.compile(sought).matcher(code).find(), false);
+        }
+        Matcher used = Pattern.compile("\\b(Arrays|System|Integer|Long|Math|String|StringBuilder|Character|Byte|Boolean)\\.\\w+")
+                .matcher(code.replaceAll("(?m)^import .*$", ""));
+        while (used.find()) {
+            Check.due(used.group() + " is of the library that is left", LIBRARY.contains(used.group()), true);
+        }
+        Matcher brought = Pattern.compile("(?m)^import (.*);$").matcher(code);
+        while (brought.find()) {
+            Check.due("import " + brought.group(1), brought.group(1).equals("java.util.Arrays"), true);
         }
         Check.due("no package", Pattern.compile("(?m)^package").matcher(code).find(), false);
         Matcher made = Pattern.compile("\\bnew \\w+").matcher(code);
