@@ -1063,12 +1063,11 @@ public final class HiddenBarrel {
 
         private void cut(byte[] tape, int length) {
             tokens = 0;
-            int next;
-            for (int at = 0; at < length; at = next) {
-                next = at + 1;
-                if (tape[at] != ' ' && tape[at] != '\n') {
-                    next = endOfToken(tape, at, length);
-                    add(kindOf(tape, at, next), at, valueOf(tape, at, next));
+            int behind = 0;
+            for (int at = 0; at < length; at++) {
+                if (at >= behind && tape[at] != ' ' && tape[at] != '\n') {
+                    behind = endOfToken(tape, at, length);
+                    add(kindOf(tape, at, behind), at, valueOf(tape, at, behind));
                 }
             }
             add(END, length, 0);
@@ -1183,23 +1182,31 @@ public final class HiddenBarrel {
             }
         }
 
+        /** Behind the head, of three tokens, lines alone; each of them is longer than one token. */
         private boolean isText() {
-            int next;
-            for (int at = 0; at < tokens; at = next) {
-                int word = kindAt(at);
-                if (at > 0 && word == END) {
-                    return true;
+            if (!isLine(0, true)) {
+                return false;
+            }
+            int at = 3;
+            for (int line = 0; line < tokens && kindAt(at) != END; line++) {
+                if (!isLine(at, false)) {
+                    return false;
                 }
-                if ((at == 0) != (word == WORD_PLACES) || numbersBehind(word) == 0) {
-                    return refuse(1, startAt(at));
+                at += 2 + numbersBehind(kindAt(at));
+            }
+            return true;
+        }
+
+        private boolean isLine(int at, boolean head) {
+            int word = kindAt(at);
+            int numbers = numbersBehind(word);
+            if (head != (word == WORD_PLACES) || numbers == 0) {
+                return refuse(1, startAt(at));
+            }
+            for (int i = at + 1; i <= at + numbers + 1; i++) {
+                if (kindAt(i) != (i <= at + numbers ? NUMBER : SEMICOLON)) {
+                    return refuse(1, startAt(i));
                 }
-                next = at + 1 + numbersBehind(word);
-                for (int i = at + 1; i <= next; i++) {
-                    if (kindAt(i) != (i < next ? NUMBER : SEMICOLON)) {
-                        return refuse(1, startAt(i));
-                    }
-                }
-                next++;
             }
             return true;
         }
@@ -1210,19 +1217,14 @@ public final class HiddenBarrel {
                 return refuse(2, startAt(1));
             }
             town.begin(places);
-            int lines = 0;
-            int next;
-            for (int at = 3; at < tokens && kindAt(at) != END; at = next) {
-                lines++;
-                if (lines > MOST_LINES) {
-                    return refuse(3, startAt(at));
-                }
+            int at = 3;
+            for (int line = 0; line < MOST_LINES && kindAt(at) != END; line++) {
                 if (!takeLine(town, at)) {
                     return false;
                 }
-                next = at + 2 + numbersBehind(kindAt(at));
+                at += 2 + numbersBehind(kindAt(at));
             }
-            return true;
+            return kindAt(at) == END || refuse(3, startAt(at));
         }
 
         private boolean takeLine(Town town, int at) {
@@ -1562,8 +1564,9 @@ public final class HiddenBarrel {
             int from = 0;
             int minute = 0;
             for (int i = cells - 1; i >= 0; i--) {
-                int cell = memberOf(ahead, rest / FACTORIAL[i]);
-                rest %= FACTORIAL[i];
+                int block = Math.max(FACTORIAL[i], 1);
+                int cell = memberOf(ahead, rest / block);
+                rest %= block;
                 minute += ways[from * MOST_PLACES + cellar[cell]];
                 found[cell * MOST_ROWS + row] = minute;
                 ahead &= ~(1 << cell);

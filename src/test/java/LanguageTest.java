@@ -43,8 +43,29 @@ public final class LanguageTest {
     public static void main(String[] args) throws IOException {
         face();
         classes();
-        source(Path.of(args.length > 0 ? args[0] : "src/main/java/HiddenBarrel.java"));
+        Path path = Path.of(args.length > 0 ? args[0] : "src/main/java/HiddenBarrel.java");
+        source(path);
+        loops(path);
         Check.close("LanguageTest");
+    }
+
+    /** Rule 9: the end of each loop is seen from its own lines, as it counts, one or a byte a step. */
+    private static void loops(Path path) throws IOException {
+        int seen = 0;
+        List<String> lines = Files.readAllLines(path, StandardCharsets.UTF_8);
+        for (int i = 0; i < lines.size(); i++) {
+            String line = lines.get(i).trim();
+            if (line.startsWith("for (")) {
+                seen++;
+                Check.due(line + " counts", line.matches("for \\(int (\\w+) = [^;]+; \\1 [<>]=? [^;]+; \\1(\\+\\+|--| -= 8)\\) \\{"), true);
+            } else if (line.matches(".*\\b(while|do)\\b.*") && !line.startsWith("*") && !line.startsWith("/**")) {
+                seen++;
+                boolean counts = line.matches("while \\((\\w+) < \\w+ && .*\\) \\{")
+                        && lines.get(i + 1).trim().equals(line.replaceAll("while \\((\\w+) .*", "$1++;"));
+                Check.due(line + " counts", counts, true);
+            }
+        }
+        Check.due("loops were seen", seen > 100, true);
     }
 
     private static String told(Method m) {
